@@ -25,7 +25,8 @@ public final class NamelessBox {
     /** How many a HEAD may be: PEOPLE and a STRANGER. */
     private static final int WHOS = 6;
 
-    private static final int UNSUMMED = 0;
+    /** How much is summed up of all WAYS: ALL alone; by each HEAD, too; by each two HEADS, too. */
+    private static final int TOTAL = 0;
     private static final int SINGLES = 1;
     private static final int PAIRS = 2;
 
@@ -42,7 +43,7 @@ public final class NamelessBox {
     private final Aunt aunt = new Aunt(box, now.sums);
 
     /** How much of what the sums tell still fits the box: the sums cost most of all, and most calls change nothing. */
-    private int summed = UNSUMMED;
+    private int summed = NONE;
 
     public NamelessBox() {
     }
@@ -127,7 +128,7 @@ public final class NamelessBox {
             return -1000 - (NONE - items);
         }
         box.take(scratch);
-        summed = UNSUMMED;
+        summed = NONE;
         return items;
     }
 
@@ -196,7 +197,7 @@ public final class NamelessBox {
         if (!anyWay(SINGLES)) {
             return refused(NO);
         }
-        aside.lookAtAll();
+        aside.lookAtAll(SINGLES);
         aside.leaveOut(name);
         aside.sumUp();
         if (aside.sums.isNothing()) {
@@ -272,7 +273,7 @@ public final class NamelessBox {
         if (!anyWay(SINGLES)) {
             return refused(NO);
         }
-        aside.lookAtAll();
+        aside.lookAtAll(TOTAL);
         aside.lookAtYear(picture, year, false);
         aside.sumUp();
         return share(aside.sums.total, 0);
@@ -289,7 +290,7 @@ public final class NamelessBox {
         int to = box.pictures.at(picture, Box.TO);
         for (int i = 0; i < to - from; i++) {
             int year = what == 0 ? from + i : to - i;
-            aside.lookAtAll();
+            aside.lookAtAll(TOTAL);
             aside.lookAtYear(picture, year, true);
             aside.sumUp();
             if (!aside.sums.isNothing()) {
@@ -306,7 +307,7 @@ public final class NamelessBox {
         if (!anyWay(SINGLES)) {
             return refused(NO);
         }
-        aside.lookAtAll();
+        aside.lookAtAll(TOTAL);
         aside.lookInOrder(a, b);
         aside.sumUp();
         return share(aside.sums.total, 0);
@@ -409,7 +410,7 @@ public final class NamelessBox {
             return refused(NO);
         }
         box.take(imageOf(i));
-        summed = UNSUMMED;
+        summed = NONE;
         return 1;
     }
 
@@ -474,7 +475,7 @@ public final class NamelessBox {
         if (answer < NONE) {
             return refused(answer);
         }
-        summed = UNSUMMED;
+        summed = NONE;
         return answer;
     }
 
@@ -486,8 +487,7 @@ public final class NamelessBox {
 
     private boolean anyWay(int needed) {
         if (summed < needed) {
-            now.lookAtAll();
-            now.lookAtPairs(needed == PAIRS);
+            now.lookAtAll(needed);
             now.sumUp();
             summed = needed;
         }
@@ -1245,14 +1245,16 @@ public final class NamelessBox {
             pairs = new long[withPairs ? HEADS * WHOS * HEADS * WHOS * Limbs.SIZE : 0];
         }
 
-        void empty(int people, int heads, boolean withPairs) {
+        void empty(int people, int heads, int detail) {
             this.people = people;
             this.heads = heads;
             Limbs.zero(total, 0);
             Limbs.zero(bestWeight, 0);
-            Arrays.fill(shares, 0);
-            Arrays.fill(crowds, 0);
-            if (withPairs) {
+            if (detail > TOTAL) {
+                Arrays.fill(shares, 0);
+                Arrays.fill(crowds, 0);
+            }
+            if (detail == PAIRS) {
                 Arrays.fill(pairs, 0);
             }
         }
@@ -1363,14 +1365,17 @@ public final class NamelessBox {
         /** The row of products ahead of a PICTURE's first HEAD. */
         static final int ONES = HEADS;
 
+        /** Below it a factor times all that NAMES and JOINS can bring, 10 to the 8th, is below 2 to the 60th. */
+        static final long SMALL = 1L << 33;
+
         final Sums sums;
         private final Box box;
 
-        /** What is asked otherwise than for all: the NAME that is left out; two PICTURES that must be in order. */
+        /** What is looked at: how much; but for which NAME; which two PICTURES in order; or the first WAY alone. */
+        private int detail = TOTAL;
         private int skipped = NONE;
         private int early = NONE;
         private int late = NONE;
-        private boolean withPairs = false;
         private boolean firstOnly = false;
 
         /** The years of each PICTURE that are looked at. */
@@ -1382,7 +1387,9 @@ public final class NamelessBox {
         private final int[] before = new int[HEADS];
         private final int[] closing = new int[PICTURES];
 
+        /** By HEAD and who it is: LIKE in each year, the sum of these, and what its NAMES bring. */
         private final int[] likes = new int[HEADS * WHOS * YEARS];
+        private final int[] likeSums = new int[HEADS * WHOS];
         private final int[] namings = new int[HEADS * WHOS];
 
         /** As far as the WAY goes by now: of each HEAD's PICTURE all LIKES multiplied, year by year. */
@@ -1390,7 +1397,6 @@ public final class NamelessBox {
         private final long[] weights = new long[(HEADS + 1) * Limbs.SIZE];
         private final long[] subtotals = new long[(HEADS + 1) * Limbs.SIZE];
         private final int[] way = new int[HEADS];
-        private final int[] present = new int[PICTURES];
 
         Ways(Box box, Sums sums) {
             this.box = box;
@@ -1399,20 +1405,16 @@ public final class NamelessBox {
         }
 
         /** Ahead of each sum; what is looked at otherwise is told behind it. */
-        void lookAtAll() {
+        void lookAtAll(int howMuch) {
+            detail = howMuch;
             skipped = NONE;
             early = NONE;
             late = NONE;
-            withPairs = false;
             firstOnly = false;
             for (int p = 0; p < box.pictures.size; p++) {
                 firstYear[p] = box.pictures.at(p, Box.FROM);
                 lastYear[p] = box.pictures.at(p, Box.TO);
             }
-        }
-
-        void lookAtPairs(boolean pairsToo) {
-            withPairs = pairsToo;
         }
 
         void leaveOut(int name) {
@@ -1421,7 +1423,7 @@ public final class NamelessBox {
 
         /** The WAYS in which a PICTURE was taken in a year; or one of them, to know whether there are any. */
         void lookAtYear(int picture, int year, boolean oneIsEnough) {
-            if (picture >= 0 && picture < PICTURES) {
+            if (box.pictures.has(picture)) {
                 firstYear[picture] = year;
                 lastYear[picture] = year;
             }
@@ -1430,12 +1432,14 @@ public final class NamelessBox {
 
         /** The WAYS in which PICTURE a was taken in an earlier year than PICTURE b. */
         void lookInOrder(int a, int b) {
-            early = a;
-            late = b;
+            if (box.pictures.has(a) && box.pictures.has(b)) {
+                early = a;
+                late = b;
+            }
         }
 
         void sumUp() {
-            sums.empty(box.people.size, box.heads.size, withPairs);
+            sums.empty(box.people.size, box.heads.size, detail);
             placeHeads();
             for (int h = 0; h < box.heads.size; h++) {
                 for (int i = 0; i <= box.people.size; i++) {
@@ -1446,13 +1450,12 @@ public final class NamelessBox {
             }
             Limbs.set(weights, 0, 1);
             takeEmptyPictures();
-            descend(0);
+            descend(0, 0);
             sums.finish(subtotals, 0);
         }
 
         private void placeHeads() {
             Arrays.fill(closing, ONES);
-            Arrays.fill(present, 0);
             for (int h = 0; h < box.heads.size; h++) {
                 int picture = box.heads.at(h, Box.PICTURE);
                 place[h] = picture;
@@ -1462,12 +1465,20 @@ public final class NamelessBox {
         }
 
         private void planLikes(int h, int who) {
-            int picture = place[h];
+            int first = firstYear[place[h]];
             int marks = box.marksLike(h, who);
-            int at = (h * WHOS + who) * YEARS;
-            for (int year = firstYear[picture]; year <= lastYear[picture]; year++) {
-                likes[at + year - firstYear[picture]] = marks * box.ageLike(h, who, year);
+            int row = h * WHOS + who;
+            int sum = 0;
+            for (int y = 0; y < yearsOf(place[h]); y++) {
+                int like = marks * box.ageLike(h, who, first + y);
+                likes[row * YEARS + y] = like;
+                sum += like;
             }
+            likeSums[row] = sum;
+        }
+
+        private int yearsOf(int picture) {
+            return Math.min(YEARS, lastYear[picture] - firstYear[picture] + 1);
         }
 
         private void planNamings(int h, int who) {
@@ -1486,16 +1497,18 @@ public final class NamelessBox {
                     Limbs.multiply(weights, 0, weights, 0, yearsOf(p));
                 }
             }
-            if (early != NONE && late != NONE && closing[early] == ONES && closing[late] == ONES) {
+            if (early != NONE && closing[early] == ONES && closing[late] == ONES) {
                 Limbs.multiply(weights, 0, weights, 0, yearsInOrder());
             }
         }
 
-        /** Rising HEADS and rising PEOPLE: so the first of like WAYS comes first. */
-        private void descend(int h) {
+        /** Rising HEADS and rising PEOPLE: so the first of like WAYS comes first. crowd: who is on any PICTURE. */
+        private void descend(int h, int crowd) {
             if (h >= box.heads.size) {
                 Limbs.copy(subtotals, h, weights, h);
-                sums.addWay(way, crowd(), weights, h);
+                if (detail > TOTAL) {
+                    sums.addWay(way, crowd & Sums.CROWDS - 1, weights, h);
+                }
                 return;
             }
             Limbs.zero(subtotals, h);
@@ -1503,10 +1516,7 @@ public final class NamelessBox {
                 int who = whoAt(i, box.people.size);
                 if (goesOn(h, who)) {
                     way[h] = who;
-                    int others = present[place[h]];
-                    present[place[h]] = others | 1 << who;
-                    descend(h + 1);
-                    present[place[h]] = others;
+                    descend(h + 1, crowd | 1 << who);
                     gather(h, who);
                     if (firstOnly && !Limbs.isZero(subtotals, h)) {
                         return;
@@ -1515,18 +1525,12 @@ public final class NamelessBox {
             }
         }
 
-        private int crowd() {
-            int bits = 0;
-            for (int p = 0; p < box.pictures.size; p++) {
-                bits |= present[p];
-            }
-            return bits & (1 << STRANGER) - 1;
-        }
-
         private void gather(int h, int who) {
             Limbs.add(subtotals, h, subtotals, h + 1);
-            Limbs.add(sums.shares, h * WHOS + who, subtotals, h + 1);
-            if (withPairs) {
+            if (detail > TOTAL) {
+                Limbs.add(sums.shares, h * WHOS + who, subtotals, h + 1);
+            }
+            if (detail == PAIRS) {
                 for (int e = 0; e < h; e++) {
                     sums.addPair(e, way[e], h, who, subtotals, h + 1);
                 }
@@ -1535,24 +1539,35 @@ public final class NamelessBox {
 
         /** Whether the WAY has a WEIGHT above 0 with this HEAD, too; if it has, it is made. */
         private boolean goesOn(int h, int who) {
-            int picture = place[h];
-            if (who != STRANGER && (present[picture] >> who & 1) == 1) {
+            if (isThereAlready(h, who)) {
                 return false;
             }
             long told = (long) namings[h * WHOS + who] * joinings(h, who);
-            if (told == 0 || !multiplyYears(h, who)) {
-                return false;
-            }
-            long taken = closing[picture] == h ? closeFactor(picture, h) : 1;
+            long taken = told == 0 ? 0 : takings(h, who);
             if (taken == 0) {
                 return false;
             }
-            Limbs.multiply(weights, h + 1, weights, h, told);
-            Limbs.multiply(weights, h + 1, weights, h + 1, taken);
+            if (taken < SMALL) {
+                Limbs.multiply(weights, h + 1, weights, h, told * taken);
+            } else {
+                Limbs.multiply(weights, h + 1, weights, h, told);
+                Limbs.multiply(weights, h + 1, weights, h + 1, taken);
+            }
             return true;
         }
 
-        /** Of the JOINS whose other HEAD is known by now. */
+        private boolean isThereAlready(int h, int who) {
+            int e = before[h];
+            for (int i = 0; i < HEADS && e != ONES && who != STRANGER; i++) {
+                if (way[e] == who) {
+                    return true;
+                }
+                e = before[e];
+            }
+            return false;
+        }
+
+        /** What the JOINS bring whose other HEAD is known by now. */
         private int joinings(int h, int who) {
             int product = 1;
             for (int j = 0; j < box.joins.size; j++) {
@@ -1567,50 +1582,61 @@ public final class NamelessBox {
             return product;
         }
 
-        private boolean multiplyYears(int h, int who) {
+        /** What the PICTURE's years bring: 1, while more is to come; 0, if none of them is left. */
+        private long takings(int h, int who) {
             int picture = place[h];
-            int years = lastYear[picture] - firstYear[picture] + 1;
+            boolean inOrder = picture == early || picture == late;
+            if (closing[picture] == h && !inOrder) {
+                return before[h] == ONES ? likeSums[h * WHOS + who] : sumYears(h, who);
+            }
+            if (!multiplyYears(h, who)) {
+                return 0;
+            }
+            return inOrder && areBothTold(h) ? yearsInOrder() : 1;
+        }
+
+        /** Whether all HEADS of the two PICTURES in order are told with this HEAD of one of them. */
+        private boolean areBothTold(int h) {
+            return (closing[early] <= h || closing[early] == ONES) && (closing[late] <= h || closing[late] == ONES);
+        }
+
+        private boolean multiplyYears(int h, int who) {
             int from = before[h] * YEARS;
-            int to = h * YEARS;
             int at = (h * WHOS + who) * YEARS;
+            int years = yearsOf(place[h]);
             boolean any = false;
-            for (int y = 0; y < years && y < YEARS; y++) {
+            for (int y = 0; y < years; y++) {
                 long product = products[from + y] * likes[at + y];
-                products[to + y] = product;
+                products[h * YEARS + y] = product;
                 any = any || product != 0;
             }
             return any;
         }
 
-        /** What comes to the WEIGHT when all HEADS of a PICTURE are told; two in order wait for the later one. */
-        private long closeFactor(int picture, int h) {
-            if (picture != early && picture != late) {
-                return yearsOf(picture);
-            }
-            int other = closing[picture == early ? late : early];
-            return other > h && other != ONES ? 1 : yearsInOrder();
-        }
-
-        private long yearsOf(int picture) {
+        /** As multiplyYears, of the last HEAD, behind which nothing asks for a single year. */
+        private long sumYears(int h, int who) {
+            int from = before[h] * YEARS;
+            int at = (h * WHOS + who) * YEARS;
+            int years = yearsOf(place[h]);
             long sum = 0;
-            int at = closing[picture] * YEARS;
-            int years = lastYear[picture] - firstYear[picture] + 1;
-            for (int y = 0; y < years && y < YEARS; y++) {
-                sum += products[at + y];
+            for (int y = 0; y < years; y++) {
+                sum += products[from + y] * likes[at + y];
             }
             return sum;
         }
 
+        /** Over all years of the late PICTURE: it in that year, times the early one in any year ahead of that. */
         private long yearsInOrder() {
             long sum = 0;
             long earlier = 0;
-            int taken = firstYear[early];
-            for (int year = firstYear[late]; year <= lastYear[late]; year++) {
-                while (taken < year && taken <= lastYear[early]) {
-                    earlier += products[closing[early] * YEARS + taken - firstYear[early]];
+            int taken = 0;
+            for (int y = 0; y < yearsOf(late); y++) {
+                int year = firstYear[late] + y;
+                while (taken < yearsOf(early) && firstYear[early] + taken < year) {
+                    earlier += products[closing[early] * YEARS + taken];
                     taken++;
                 }
-                sum += earlier * products[closing[late] * YEARS + year - firstYear[late]];
+                sum += earlier * products[closing[late] * YEARS + y];
             }
             return sum;
         }
