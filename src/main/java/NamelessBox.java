@@ -1378,9 +1378,9 @@ public final class NamelessBox {
         private int late = NONE;
         private boolean firstOnly = false;
 
-        /** The years of each PICTURE that are looked at. */
+        /** The years of each PICTURE that are looked at: the first one, and how many. */
         private final int[] firstYear = new int[PICTURES];
-        private final int[] lastYear = new int[PICTURES];
+        private final int[] years = new int[PICTURES];
 
         /** The PICTURE of each HEAD, the HEAD ahead of it there, and the last HEAD of each PICTURE (or ONES). */
         private final int[] place = new int[HEADS];
@@ -1413,7 +1413,7 @@ public final class NamelessBox {
             firstOnly = false;
             for (int p = 0; p < box.pictures.size; p++) {
                 firstYear[p] = box.pictures.at(p, Box.FROM);
-                lastYear[p] = box.pictures.at(p, Box.TO);
+                years[p] = Math.min(YEARS, box.pictures.at(p, Box.TO) - firstYear[p] + 1);
             }
         }
 
@@ -1425,7 +1425,7 @@ public final class NamelessBox {
         void lookAtYear(int picture, int year, boolean oneIsEnough) {
             if (box.pictures.has(picture)) {
                 firstYear[picture] = year;
-                lastYear[picture] = year;
+                years[picture] = 1;
             }
             firstOnly = oneIsEnough;
         }
@@ -1469,16 +1469,12 @@ public final class NamelessBox {
             int marks = box.marksLike(h, who);
             int row = h * WHOS + who;
             int sum = 0;
-            for (int y = 0; y < yearsOf(place[h]); y++) {
+            for (int y = 0; y < years[place[h]]; y++) {
                 int like = marks * box.ageLike(h, who, first + y);
                 likes[row * YEARS + y] = like;
                 sum += like;
             }
             likeSums[row] = sum;
-        }
-
-        private int yearsOf(int picture) {
-            return Math.min(YEARS, lastYear[picture] - firstYear[picture] + 1);
         }
 
         private void planNamings(int h, int who) {
@@ -1494,7 +1490,7 @@ public final class NamelessBox {
         private void takeEmptyPictures() {
             for (int p = 0; p < box.pictures.size; p++) {
                 if (closing[p] == ONES && p != early && p != late) {
-                    Limbs.multiply(weights, 0, weights, 0, yearsOf(p));
+                    Limbs.multiply(weights, 0, weights, 0, years[p]);
                 }
             }
             if (early != NONE && closing[early] == ONES && closing[late] == ONES) {
@@ -1603,9 +1599,9 @@ public final class NamelessBox {
         private boolean multiplyYears(int h, int who) {
             int from = before[h] * YEARS;
             int at = (h * WHOS + who) * YEARS;
-            int years = yearsOf(place[h]);
+            int many = years[place[h]];
             boolean any = false;
-            for (int y = 0; y < years; y++) {
+            for (int y = 0; y < many; y++) {
                 long product = products[from + y] * likes[at + y];
                 products[h * YEARS + y] = product;
                 any = any || product != 0;
@@ -1617,9 +1613,9 @@ public final class NamelessBox {
         private long sumYears(int h, int who) {
             int from = before[h] * YEARS;
             int at = (h * WHOS + who) * YEARS;
-            int years = yearsOf(place[h]);
+            int many = years[place[h]];
             long sum = 0;
-            for (int y = 0; y < years; y++) {
+            for (int y = 0; y < many; y++) {
                 sum += products[from + y] * likes[at + y];
             }
             return sum;
@@ -1630,9 +1626,9 @@ public final class NamelessBox {
             long sum = 0;
             long earlier = 0;
             int taken = 0;
-            for (int y = 0; y < yearsOf(late); y++) {
+            for (int y = 0; y < years[late]; y++) {
                 int year = firstYear[late] + y;
-                while (taken < yearsOf(early) && firstYear[early] + taken < year) {
+                while (taken < years[early] && firstYear[early] + taken < year) {
                     earlier += products[closing[early] * YEARS + taken];
                     taken++;
                 }
