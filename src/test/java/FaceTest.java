@@ -50,6 +50,10 @@ public final class FaceTest {
             }
         }
         check(due.equals(there), "the face is " + there);
+        for (Method m : NamelessBox.class.getDeclaredMethods()) {
+            check(Modifier.isPublic(m.getModifiers()) || !publicNames.contains(m.getName()), "bears a public name: " + m);
+            check(m.getParameterCount() <= 7, "too many parameters: " + m);
+        }
         TreeSet<String> constants = new TreeSet<>();
         for (Field f : NamelessBox.class.getDeclaredFields()) {
             if (Modifier.isPublic(f.getModifiers())) {

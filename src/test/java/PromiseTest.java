@@ -663,6 +663,17 @@ public final class PromiseTest {
         x.picture(70, 80);
         due(27, "without HEADS", x.span(1, 0), 70);
         due(27, "without HEADS", x.span(1, 1), 80);
+        NamelessBox y = years();
+        y.strange(0);
+        y.person(12, 100, 0, 0);
+        y.name(1, 0, 1, 1);
+        due(27, "the last year alone", y.span(0, 0), 12);
+        NamelessBox z = new NamelessBox();
+        z.person(0, 10, 0, 0);
+        z.picture(10, 12);
+        z.head(0, 0, 0, 10, 10);
+        z.strange(0);
+        due(27, "the first year alone", z.span(0, 1), 10);
         fraction(27, "span", x, 0, 1);
     }
 
@@ -876,6 +887,39 @@ public final class PromiseTest {
         due(38, "a FAULT is none", x.status(0) + x.status(1) + x.status(2), 7);
     }
 
+    /** Every call that may be refused as BAD is, and each one counts. */
+    private static void badStatus() {
+        NamelessBox x = never();
+        int[] answers = {x.person(-1, 0, 0, 0), x.near(9, 0), x.picture(-1, 0), x.head(9, 0, 0, 0, 0),
+            x.name(9, 0, 0, 0), x.join(9, 0, 0), x.strange(-1), x.mark(9, 0), x.like(9, 0, 0), x.truth(9), x.type(0, 0),
+            x.who(9, 0), x.named(9), x.best(9), x.sure(-1), x.falls(-1, 0), x.same(0, 0), x.noneOf(9), x.friend(9),
+            x.of(9, 0), x.when(9, 0), x.span(9, 0), x.ahead(0, 0), x.parts(0, 0), x.doubt(0, 0), x.ask(9), x.sign(9),
+            x.limb(9, 0), x.image(9), x.from(9), x.count(9)};
+        for (int i = 0; i < answers.length; i++) {
+            due(38, "the " + i + "th of those that are BAD", answers[i], BAD);
+        }
+        due(38, "all of these", x.status(0), answers.length);
+        due(38, "no other", x.status(1) + x.status(2), 0);
+    }
+
+    /** Every call that may be refused as NO is, and each one counts and leaves THE FRACTION. */
+    private static void noStatus() {
+        NamelessBox x = two();
+        x.picture(3, 3);
+        x.all();
+        x.name(1, 0, 0, 0);
+        x.name(4, 0, 0, 0);
+        int[] answers = {x.who(0, 0), x.named(0), x.best(0), x.all(), x.sure(0), x.falls(0, 0), x.same(0, 1), x.noneOf(0),
+            x.friend(0), x.of(0, 0), x.when(0, 10), x.span(0, 0), x.ahead(0, 1), x.doubt(0, 1), x.right(), x.ask(0),
+            x.next(), x.from(0)};
+        for (int i = 0; i < answers.length; i++) {
+            due(38, "the " + i + "th of those that are NO", answers[i], NO);
+        }
+        due(38, "all of these", x.status(1), answers.length);
+        due(38, "no other", x.status(0) + x.status(2), 0);
+        fraction(38, "NO", x, 68, 1);
+    }
+
     private static void count() {
         NamelessBox x = apart();
         x.name(0, 0, 0, 0);
@@ -954,6 +998,8 @@ public final class PromiseTest {
         limb();
         images();
         status();
+        badStatus();
+        noStatus();
         count();
         digest();
         System.out.println(checks - wrong + " of " + checks + " answers are as due");

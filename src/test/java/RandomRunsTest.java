@@ -172,6 +172,37 @@ public final class RandomRunsTest {
         }
     }
 
+    /** As great as WEIGHTS come, or nearly: the highest limbs count, too. */
+    private void askGreatOne() {
+        for (int p = 0; p < 4; p++) {
+            pair.call("person", to(3), 100, 15, 15 - to(1));
+            pair.call("near", p, 4);
+            pair.call("picture", 20 + to(9), 31);
+        }
+        for (int h = 0; h < 6; h++) {
+            pair.call("head", h < 4 ? h : to(3), 15, 15, 0, 99);
+        }
+        for (int n = 0; n < 4; n++) {
+            pair.call("name", to(1) + 2, to(5), to(3), to(3));
+            pair.call("join", n, (n + 1) % 4, 8 + to(1));
+        }
+        pair.call("strange", 7 + to(2));
+        for (int i = 0; i < 6; i++) {
+            pair.call("named", i);
+            pair.call("best", i);
+        }
+        pair.call("all");
+        pair.call("right");
+        pair.call("doubt", 0, 1);
+        pair.call("doubt", 2, 3);
+        pair.call("ahead", 0, 1);
+        pair.call("same", 0, 1);
+        pair.call("friend", 1);
+        pair.call("falls", to(100), to(3));
+        pair.call("sure", to(100));
+        pair.call("next");
+    }
+
     private static boolean fails(long seed, RandomRunsTest run) {
         if (!run.pair.same) {
             System.out.println("seed " + seed);
@@ -200,6 +231,11 @@ public final class RandomRunsTest {
             run.readSome(8);
             run.askAnything(20, false);
             wrong += fails(2000000 + seed, run) ? 1 : 0;
+        }
+        for (long seed = 0; seed < 4L * runs && wrong < 3; seed++) {
+            RandomRunsTest run = new RandomRunsTest(3000000 + seed);
+            run.askGreatOne();
+            wrong += fails(3000000 + seed, run) ? 1 : 0;
         }
         System.out.println(wrong == 0 ? "all runs are as the plain box tells" : wrong + " runs are not");
         if (wrong != 0) {
