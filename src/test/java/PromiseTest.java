@@ -496,6 +496,7 @@ public final class PromiseTest {
         due(19, "status(1)", n.status(1), 2);
         fraction(19, "NO", n, 0, 1);
         greatest();
+        crowded();
     }
 
     /** The greatest one: 12 years to the 4th, 324 and 288 by HEAD, NAMES and JOINS that bring 10 each. */
@@ -524,6 +525,23 @@ public final class PromiseTest {
         due(34, "limbs above", x.sign(1), 4);
         due(35, "limb(0, 3)", x.limb(0, 3), due.shiftRight(90).intValue());
         due(35, "limb(0, 4)", x.limb(0, 4), NONE);
+    }
+
+    /** Six on one PICTURE, and all NAMES of the last one. */
+    private static void crowded() {
+        NamelessBox x = new NamelessBox();
+        x.person(0, 100, 0, 15);
+        x.picture(0, 11);
+        for (int h = 0; h < 6; h++) {
+            x.head(0, 0, 15, 0, 99);
+        }
+        x.strange(9);
+        for (int n = 0; n < 4; n++) {
+            x.name(1, 5, 0, 0);
+        }
+        x.all();
+        BigInteger due = BigInteger.TEN.pow(4).multiply(BigInteger.valueOf(12 * 324)).multiply(BigInteger.valueOf(288).pow(5));
+        due(19, "six on one PICTURE", whole(x, 0).equals(due) ? 1 : 0, 1);
     }
 
     private static void sure() {

@@ -172,18 +172,18 @@ public final class RandomRunsTest {
         }
     }
 
-    /** As great as WEIGHTS come, or nearly: the highest limbs count, too. */
-    private void askGreatOne() {
+    /** As great as WEIGHTS come, or nearly: the highest limbs count, too; and so does a crowd on one PICTURE. */
+    private void askGreatOne(boolean crowd) {
         for (int p = 0; p < 4; p++) {
             pair.call("person", to(3), 100, 15, 15 - to(1));
             pair.call("near", p, 4);
             pair.call("picture", 20 + to(9), 31);
         }
         for (int h = 0; h < 6; h++) {
-            pair.call("head", h < 4 ? h : to(3), 15, 15, 0, 99);
+            pair.call("head", crowd ? (h == 2 ? to(1) : 0) : h < 4 ? h : to(3), 15, 15, 0, 99);
         }
         for (int n = 0; n < 4; n++) {
-            pair.call("name", to(1) + 2, to(5), to(3), to(3));
+            pair.call("name", to(1) + 2, n == 0 ? 5 : to(5), to(3), to(3));
             pair.call("join", n, (n + 1) % 4, 8 + to(1));
         }
         pair.call("strange", 7 + to(2));
@@ -232,9 +232,9 @@ public final class RandomRunsTest {
             run.askAnything(20, false);
             wrong += fails(2000000 + seed, run) ? 1 : 0;
         }
-        for (long seed = 0; seed < 4L * runs && wrong < 3; seed++) {
+        for (long seed = 0; seed < 6L * runs && wrong < 3; seed++) {
             RandomRunsTest run = new RandomRunsTest(3000000 + seed);
-            run.askGreatOne();
+            run.askGreatOne(seed % 2 == 1);
             wrong += fails(3000000 + seed, run) ? 1 : 0;
         }
         System.out.println(wrong == 0 ? "all runs are as the plain box tells" : wrong + " runs are not");
