@@ -1,6 +1,6 @@
 import java.math.BigInteger;
 
-/** Each promise of the document by answers worked out by hand: ordinary inputs, edges, wrong inputs. */
+/** Each promise of the document by answers worked out from it: ordinary inputs, edges, wrong inputs. */
 public final class PromiseTest {
     private static final int NONE = -1, BAD = -2, NO = -3, FULL = -4, STRANGER = 5, BIG = Integer.MAX_VALUE;
     private static int wrong = 0;
