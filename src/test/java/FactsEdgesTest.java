@@ -99,6 +99,51 @@ public final class FactsEdgesTest {
         Edges.answered("by 1", x -> x.limb(1, 1), NONE);
     }
 
+    /** Five PEOPLE alike, four PICTURES of a HEAD each: LIKES of 324, and of a STRANGER of 288, in each of 12 years. */
+    private static NamelessBox manyAlike() {
+        NamelessBox x = new NamelessBox();
+        for (int p = 0; p < 5; p++) {
+            x.person(0, 100, 0, 15);
+        }
+        x.strange(9);
+        for (int p = 0; p < 4; p++) {
+            x.picture(50, 61);
+            x.head(p, 0, 15, 0, 99);
+        }
+        x.join(0, 1, 9);
+        return x;
+    }
+
+    private static void carried() {
+        Edges.about(35, "sums of numbers of many limbs: each limb stays below the base");
+        Edges.in(FactsEdgesTest::manyAlike);
+        // each HEAD: 5 x 324 + 288 = 1908, as 9, 9, 9, 9, 9, 8 of 53; HEADS 0, 1: 5 x 81 x 9 + (53 x 53 - 5 x 81) x 1
+        BigInteger both = BigInteger.valueOf(5 * 81 * 9 + 53 * 53 - 5 * 81);
+        BigInteger all = both.multiply(BigInteger.valueOf(53 * 53)).multiply(BigInteger.valueOf(36 * 12).pow(4));
+        NamelessBox x = manyAlike();
+        x.all();
+        Edges.same("ALL", Edges.fractionOf(x), all + " by 1");
+        Edges.share("same(0, 1)", y -> y.same(0, 1), 3645, 6049);
+        Edges.share("same(2, 3)", y -> y.same(2, 3), 405, 2809);
+        // 0 on none: HEADS 0, 1: 44 x 44 + 8 x 4 x 81, HEADS 2, 3: 44 x 44
+        Edges.share("noneOf(0)", y -> y.noneOf(0), (44L * 44 + 8 * 4 * 81) * 44 * 44, 6049L * 2809);
+        Edges.share("friend(0)", y -> y.friend(0), 0, 1);
+        Edges.share("right()", y -> y.right(), 2 * (9 * 53 + 8 * 81) * 53 + 2 * 9 * 6049, 6049 * 53);
+        Edges.about(35, "asked twice, the same answer");
+        NamelessBox z = manyAlike();
+        for (int i = 0; i < 2; i++) {
+            z.same(0, 1);
+            Edges.same("same(0, 1)", Edges.fractionOf(z), "3645 by 6049");
+            z.noneOf(0);
+            Edges.same("noneOf(0)", Edges.fractionOf(z), "8766208 by 16991641");
+            z.right();
+            z.friend(0);
+            Edges.same("friend(0)", Edges.fractionOf(z), "0 by 1");
+            z.of(0, 0);
+            Edges.same("of(0, 0)", Edges.fractionOf(z), "0 by 1");
+        }
+    }
+
     private static void sign() {
         Edges.about(34, "its sign (0), how many limbs above (1), below (2)");
         Edges.in(Edges::one);
@@ -380,6 +425,7 @@ public final class FactsEdgesTest {
         sign();
         limb();
         limbs();
+        carried();
         image();
         from();
         status();

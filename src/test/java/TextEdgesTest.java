@@ -335,6 +335,16 @@ public final class TextEdgesTest {
         read(y, "picture 5 6;");
         y.all();
         Edges.same("ALL", Edges.fractionOf(y), "2 by 1");
+        Edges.about(15, "STRANGE is 1 again, whatever a TEXT that was read ahead told");
+        NamelessBox v = new NamelessBox();
+        read(v, "strange 9;person 1 2 3 4;near 0 4;");
+        read(v, "person 1 2 3 4;");
+        Edges.due("STRANGE", v.strange(8), 1);
+        Edges.due("NEAR", v.near(0, 3), 2);
+        read(v, "strange 7;strange 10;");
+        Edges.due("STRANGE, behind one that was refused", v.strange(8), 8);
+        read(v, "");
+        Edges.due("STRANGE, behind an empty one", v.strange(8), 1);
         Edges.about(15, "refused by its last ITEM: none of those ahead of it has come");
         NamelessBox z = Edges.some();
         z.clear();
