@@ -161,6 +161,10 @@ public final class TextEdgesTest {
         reads("stranga 4;", -10);
         reads("strangz 4;", -10);
         reads("zear 0 0;", -10);
+        reads("strangea 4;", -10);
+        reads("strangez 4;", -10);
+        reads("strange4z;", -18);
+        reads("strange4a;", -18);
         reads("nea`r 0 0;", -10);
         Edges.about(15, "TOKENS that can not stand there");
         reads("4 strange;", -10);

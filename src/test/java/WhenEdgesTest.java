@@ -152,6 +152,19 @@ public final class WhenEdgesTest {
         });
         Edges.share("5 is, 6 is not ahead of 6", x -> x.ahead(0, 1), 1, 2);
         Edges.share("6 is not ahead of 5 or 6", x -> x.ahead(1, 0), 0, 1);
+        Edges.about(28, "HEADS of both PICTURES, whichever came last");
+        // 5 or 6, and 6 or 7 (dead ahead of 8), of no STRANGERS
+        Edges.in(() -> {
+            NamelessBox x = lived(5, 6);
+            x.person(6, 7, 0, 0);
+            x.picture(0, 11);
+            x.head(1, 0, 0, 0, 99);
+            x.name(1, 0, 0, 0);
+            x.name(1, 1, 1, 1);
+            return x;
+        });
+        Edges.share("5, 6 ahead of 6, 7", x -> x.ahead(0, 1), 3, 4);
+        Edges.share("6, 7 ahead of 5, 6", x -> x.ahead(1, 0), 0, 1);
     }
 
     private static NamelessBox two(int marks, int known, int otherMarks, int otherKnown) {
