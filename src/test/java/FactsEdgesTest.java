@@ -144,6 +144,63 @@ public final class FactsEdgesTest {
         }
     }
 
+    /** Six HEADS of five PEOPLE, all bound together by JOINS: shares whose lowest terms have two limbs and three. */
+    private static NamelessBox knotted() {
+        NamelessBox x = new NamelessBox();
+        int[] marks = {9, 6, 3, 12, 5};
+        for (int p = 0; p < 5; p++) {
+            x.person(p, 100, marks[p], 15 - p % 2);
+            x.near(p, p);
+        }
+        for (int p = 0; p < 4; p++) {
+            x.picture(10 + p, 20 + p);
+        }
+        int[] sights = {9, 14, 2, 13, 7, 1};
+        for (int h = 0; h < 6; h++) {
+            x.head(h % 4, sights[h], 15, 10 + h, 11 + h);
+        }
+        x.strange(5);
+        x.name(2, 0, 0, 0);
+        x.name(3, 1, 3, 1);
+        x.name(5, 2, 4, 4);
+        x.name(0, 3, 2, 2);
+        x.join(0, 1, 7);
+        x.join(1, 2, 3);
+        x.join(2, 3, 6);
+        x.join(3, 4, 9);
+        return x;
+    }
+
+    private static void knot(NamelessBox x, String what, int got, int want, String fraction) {
+        Edges.due(what, got, want);
+        Edges.same("THE FRACTION behind " + what, Edges.fractionOf(x), fraction);
+    }
+
+    /** The numbers here were worked out from the document by a script of its own, with fractions of any length. */
+    private static void threeLimbs() {
+        Edges.about(34, "lowest terms, of several limbs, and nothing is left of those ahead");
+        NamelessBox x = knotted();
+        knot(x, "ask(4)", x.ask(4), 1, "21642012822729978557 by 42720721775361761700");
+        Edges.due("limbs above", x.sign(1), 3);
+        Edges.due("limbs below", x.sign(2), 3);
+        knot(x, "all()", x.all(), 1, "708685509387121192488960 by 1");
+        Edges.due("limbs below", x.sign(2), 1);
+        Edges.due("nothing behind it", x.limb(1, 1), NONE);
+        knot(x, "who(0, 0)", x.who(0, 0), 1, "106178588128709037 by 284804811835745078");
+        knot(x, "who(5, NONE)", x.who(5, NONE), 1, "64228185518303680 by 142402405917872539");
+        knot(x, "same(3, 4)", x.same(3, 4), 1, "157121685406245843 by 569609623671490156");
+        knot(x, "noneOf(4)", x.noneOf(4), 1, "10626384253846295315 by 20505946452173645616");
+        knot(x, "same(1, 5)", x.same(1, 5), 1, "0 by 1");
+        Edges.due("limbs above", x.sign(1), 0);
+        Edges.due("limbs below", x.sign(2), 1);
+        knot(x, "friend(2)", x.friend(2), 1, "17765571465434220 by 142402405917872539");
+        knot(x, "of(5, 3)", x.of(5, 3), 1, "23262667681280000 by 142402405917872539");
+        knot(x, "when(0, 15)", x.when(0, 15), 1, "31606357122371709 by 284804811835745078");
+        knot(x, "ahead(0, 1)", x.ahead(0, 1), 1, "2803787586435175685 by 5126486613043411404");
+        knot(x, "right()", x.right(), 1, "3027048478740596680 by 1281621653260852851");
+        knot(x, "next()", x.next(), 3, "7456467315777885639 by 14240240591787253900");
+    }
+
     private static void sign() {
         Edges.about(34, "its sign (0), how many limbs above (1), below (2)");
         Edges.in(Edges::one);
@@ -439,6 +496,7 @@ public final class FactsEdgesTest {
         limb();
         limbs();
         carried();
+        threeLimbs();
         image();
         from();
         status();
