@@ -201,6 +201,64 @@ public final class FactsEdgesTest {
         knot(x, "next()", x.next(), 3, "7456467315777885639 by 14240240591787253900");
     }
 
+    /**
+     * A box that was searched for, so that ALL is 2 to the 91st: PICTURE 0 was taken ahead of all births, so HEAD 0 is a
+     * STRANGER and its JOINS bring 8 each; what each other PICTURE brings is a power of 2.
+     */
+    private static NamelessBox powerOfTwo() {
+        NamelessBox x = new NamelessBox();
+        int[] born = {8, 8, 25, 24, 23};
+        int[] marks = {12, 13, 12, 11, 9};
+        int[] near = {1, 1, 1, 4, 1};
+        for (int p = 0; p < 5; p++) {
+            x.person(born[p], 100, marks[p], 15);
+            x.near(p, near[p]);
+        }
+        x.picture(0, 7);
+        x.picture(32, 41);
+        x.picture(56, 66);
+        x.picture(39, 49);
+        x.head(0, 15, 15, 0, 99);
+        x.head(1, 12, 15, 3, 29);
+        x.head(2, 12, 15, 32, 72);
+        x.head(2, 11, 15, 24, 63);
+        x.head(3, 12, 15, 15, 72);
+        x.head(3, 11, 15, 0, 46);
+        x.strange(8);
+        x.name(3, 1, 1, 3);
+        x.name(0, 1, 0, 0);
+        x.name(0, 1, 0, 3);
+        x.name(0, 1, 0, 2);
+        for (int j = 0; j < 4; j++) {
+            x.join(0, 1, 2);
+        }
+        return x;
+    }
+
+    /** As in threeLimbs, the numbers were worked out from the document by a script of its own. */
+    private static void highestLimbAlone() {
+        Edges.about(19, "ALL is not 0, though all its limbs but the highest one are");
+        NamelessBox x = powerOfTwo();
+        knot(x, "all()", x.all(), 1, "2475880078570760549798248448 by 1");
+        Edges.due("its sign", x.sign(0), 1);
+        Edges.due("limbs above", x.sign(1), 4);
+        for (int i = 0; i < 3; i++) {
+            Edges.due("a limb of 0", x.limb(0, i), 0);
+        }
+        Edges.due("the highest limb", x.limb(0, 3), 2);
+        knot(x, "who(1, 0)", x.who(1, 0), 1, "2187 by 4096");
+        knot(x, "who(1, NONE)", x.who(1, NONE), 1, "5 by 32");
+        knot(x, "named(2)", x.named(2), 0, "20493 by 65536");
+        knot(x, "same(2, 4)", x.same(2, 4), 1, "6803167095 by 34359738368");
+        knot(x, "noneOf(3)", x.noneOf(3), 1, "1368669644898499 by 4503599627370496");
+        knot(x, "friend(0)", x.friend(0), 1, "231 by 1024");
+        knot(x, "when(3, 44)", x.when(3, 44), 1, "12085 by 131072");
+        knot(x, "ahead(1, 3)", x.ahead(1, 3), 1, "8252184305 by 8589934592");
+        knot(x, "right()", x.right(), 1, "1592435 by 524288");
+        Edges.due("sure(40)", x.sure(40), 43);
+        Edges.due("falls(50, 1)", x.falls(50, 1), 2);
+    }
+
     private static void sign() {
         Edges.about(34, "its sign (0), how many limbs above (1), below (2)");
         Edges.in(Edges::one);
@@ -497,6 +555,7 @@ public final class FactsEdgesTest {
         limbs();
         carried();
         threeLimbs();
+        highestLimbAlone();
         image();
         from();
         status();
